@@ -96,6 +96,8 @@ public final class OrdersTest {
     x.goods(1, 2);
     due.is("18 one first", x.good(1, false), 1);
     due.is("18 one last", x.good(1, true), 1);
+    x.goods(0, 5);
+    due.is("18 at the first place alone", x.good(2, true), 0);
     due.is("18 beyond", x.good(12, false), Due.BEYOND);
     due.is("18 no graves", new GraveRows().good(0, false), Due.NONE);
     due.is("18 none ahead of long", Due.withGraves(9).good(0, false), Due.NONE);
@@ -160,6 +162,7 @@ public final class OrdersTest {
     x.goods(1, 0b100);
     due.is("20 it has another one", Due.checkRow(x, 0, 1, 2, 3), 2);
     due.is("20 holes of a third good", Due.checkRow(x, 1, 0, 2, 3), 1);
+    due.is("20 behind the last one is no hole", Due.checkRow(x, 0, 3, 1, 2), 0);
     GraveRows ten = Due.withGraves(10);
     ten.goods(0, 4095);
     ten.goods(9, 4095);
@@ -210,6 +213,12 @@ public final class OrdersTest {
       due.is("23 far", x.stretches(far), Due.BEYOND);
     }
     due.is("23 one of one", Due.withGraves(1).stretches(1), 0);
+    GraveRows backward = Due.withGoods(0b1, 0b10, 0b10);
+    backward.cut(0, 1, true);
+    backward.cut(1, 2, true);
+    due.is("23 backward", backward.stretches(2), 0);
+    due.is("24 backward", backward.border(2, 1), 2);
+    due.is("23 backward, three", backward.stretches(3), 1);
   }
 
   private static void border() {

@@ -72,6 +72,8 @@ public final class PlacesTest {
       due.is("31 far", x.like(far, 0, true), Due.BEYOND);
       due.is("31 far other", x.like(0, far, false), Due.BEYOND);
     }
+    due.is("31 one good in each", Due.withGoods(1, 1).like(0, 1, false), 1);
+    due.is("31 one good in each", Due.withGoods(1, 1).like(0, 1, true), 1);
     GraveRows robbed = new GraveRows();
     robbed.grave(1, 0, 0);
     robbed.grave(0, 0, 0);
@@ -88,6 +90,8 @@ public final class PlacesTest {
     due.is("32 of several the least", Due.withGoods(1, 2, 4).nearest(0), 1);
     due.is("32 of several the least", Due.withGoods(1, 2, 4).nearest(2), 0);
     due.is("32 as a fraction", Due.withGoods(0b1111, 0b0011, 0b111111).nearest(0), 2);
+    due.is("32 two graves", Due.withGraves(2).nearest(0), 1);
+    due.is("32 two graves", Due.withGraves(2).nearest(1), 0);
     due.is("32 no other", Due.withGraves(1).nearest(0), Due.NONE);
     due.is("32 beyond ahead of none", Due.withGraves(1).nearest(1), Due.BEYOND);
     for (int far : Due.FAR) {

@@ -31,6 +31,7 @@ public final class SheetsTest {
     due.is("11 gone, beyond", x.sheet(3, 0, 13), Due.BEYOND);
     x.grave(0, 0, 0);
     x.sheet(0, 8, 2);
+    x.put(0, 0, 1);
     x.put(0, 1, 1);
     due.is("11 anew", x.sheet(0, 8, 2), 2);
     due.is("11 all 0", x.read(0, 0), 0);

@@ -56,7 +56,17 @@ public final class YearsTest {
     due.is("26 the first one", x.wrong(), 1);
     x.cut(1, 2, false);
     due.is("26 the cut is gone", x.wrong(), -1);
+    x.span(1, 300, 400);
+    x.span(0, 100, 200);
+    due.is("26 grave 0, of two", x.wrong(), 0);
     due.is("26 no findings", x.told(2), 0);
+    GraveRows up = Due.withGraves(2);
+    up.cut(1, 0, true);
+    up.span(0, 10, 50);
+    up.span(1, 0, 20);
+    due.is("25 grave 0 is cut", up.year(1, false), 10);
+    due.is("25 grave 0 is cut", up.year(0, true), 20);
+    due.is("26 none", up.wrong(), -1);
   }
 
   private static void in() {
@@ -88,7 +98,13 @@ public final class YearsTest {
     due.is("28 earliest", x.used(0, false), 150);
     due.is("28 latest", x.used(0, true), 350);
     due.is("28 of one", x.used(1, true), 300);
-    due.is("28 none", x.used(2, false), Due.NONE);
+    x.goods(2, 4);
+    due.is("28 of the last one", x.used(2, false), 100);
+    due.is("28 of the last one", x.used(2, true), 300);
+    x.goods(0, 9);
+    due.is("28 of grave 0 alone", x.used(3, false), 150);
+    due.is("28 of grave 0 alone", x.used(3, true), 350);
+    due.is("28 none", x.used(4, false), Due.NONE);
     due.is("28 beyond", x.used(12, false), Due.BEYOND);
     for (int far : Due.FAR) {
       due.is("28 far", x.used(far, false), Due.BEYOND);
