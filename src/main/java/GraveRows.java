@@ -282,10 +282,12 @@ public final class GraveRows {
     if (ground.size == 0) {
       return finding(NONE);
     }
+    int ahead = 0;
     for (int place = 0; place < ground.size; place++) {
-      if (!ground.fitsAt(place, count)) {
+      if (!ground.fitsBehind(ahead, place, count)) {
         return -1 - place;
       }
+      ahead |= 1 << ground.waiting[place];
     }
     if (count > ground.size) {
       return MORE_WERE_TOLD;
@@ -772,24 +774,16 @@ public final class GraveRows {
       return set;
     }
 
-    /** Numbers beyond the last place are no part of the order, so they hinder no place. */
-    boolean fitsAt(int place, int count) {
-      int end = Math.min(count, size);
-      if (place >= end || !holds(waiting[place])) {
+    /**
+     * Whether the number that waits for a place is a grave that may stand behind these. Its own CUTS
+     * are enough to look at: those by more steps are ahead already, as each grave ahead did fit.
+     */
+    boolean fitsBehind(int ahead, int place, int count) {
+      if (place >= count || !holds(waiting[place])) {
         return false;
       }
-      for (int i = 0; i < place; i++) {
-        if (waiting[i] == waiting[place]) {
-          return false;
-        }
-      }
-      int mustBeAhead = earlierThan(waiting[place]);
-      for (int i = place + 1; i < end; i++) {
-        if (holds(waiting[i]) && isIn(mustBeAhead, waiting[i])) {
-          return false;
-        }
-      }
-      return true;
+      int grave = waiting[place];
+      return !isIn(ahead, grave) && (graves[grave].cuts & ~ahead) == 0;
     }
 
     /** Asked only where the numbers that waited fit at every place. */

@@ -9,6 +9,7 @@ public final class OrdersTest {
     good();
     tell();
     checkPlaces();
+    checkCutNotAhead();
     checkCost();
     without();
     ways();
@@ -138,7 +139,6 @@ public final class OrdersTest {
     due.is("20 keeps all cuts", Due.checkRow(x, 2, 1, 0), 0);
     due.is("20 the one ahead is told", Due.checkRow(x, 2, 0, 1), -2);
     due.is("20 from one to the next", Due.checkRow(x, 0, 2), -1);
-    due.is("20 one that is not told is not behind it", Due.checkRow(x, 0), -2);
     due.is("20 later beyond a wrong number", Due.checkRow(x, 1, 7, 2), -1);
     due.is("20 more that would be earlier", Due.checkRow(x, 2, 1, 0, 2), -12);
     due.is("20 no findings", x.told(2), 0);
@@ -147,6 +147,38 @@ public final class OrdersTest {
     due.is("20 ten", Due.checkRow(ten, 9, 8, 7, 6, 5, 4, 3, 2, 1, 0), 0);
     due.is("20 nine of ten", Due.checkRow(ten, 9, 8, 7, 6, 5, 4, 3, 2, 1), -10);
     due.is("20 eleven", Due.checkRow(ten, 9, 8, 7, 6, 5, 4, 3, 2, 1, 0, 5), -12);
+  }
+
+  /** A place is wrong where one that its grave CUTS is not ahead, wherever else that one is told, or not at all. */
+  private static void checkCutNotAhead() {
+    GraveRows two = Due.withGraves(2);
+    two.cut(0, 1, true);
+    due.is("20 the one that it cuts is not told", Due.checkRow(two, 0), -1);
+    due.is("20 it is told behind it", Due.checkRow(two, 0, 1), -1);
+    due.is("20 it is told beyond the last place", Due.checkRow(two, 0, 0, 1), -1);
+    due.is("20 no grave in its place", Due.checkRow(two, 0, 7), -1);
+    due.is("20 it is ahead, then one is missing", Due.checkRow(two, 1), -2);
+    two.cut(0, 1, false);
+    due.is("20 not cut any more", Due.checkRow(two, 0), -2);
+    GraveRows x = Due.withGraves(4);
+    x.cut(3, 2, true);
+    x.cut(2, 0, true);
+    due.is("20 by steps, none of them told", Due.checkRow(x, 3), -1);
+    due.is("20 by steps, the one between is not told", Due.checkRow(x, 0, 3), -2);
+    due.is("20 the second place", Due.checkRow(x, 1, 2), -2);
+    due.is("20 the third place", Due.checkRow(x, 1, 0, 3), -3);
+    due.is("20 told twice ahead of the last", Due.checkRow(x, 0, 2, 0, 3), -3);
+    due.is("20 all but one", Due.checkRow(x, 0, 2, 3), -4);
+    due.is("20 all", Due.checkRow(x, 0, 2, 3, 1), 0);
+    x.cut(3, 1, true);
+    due.is("20 one of two is not told", Due.checkRow(x, 0, 2, 3), -3);
+    due.is("20 one of two is behind", Due.checkRow(x, 0, 2, 3, 1), -3);
+    due.is("20 both are ahead", Due.checkRow(x, 0, 1, 2, 3), 0);
+    due.is("20 no findings", x.told(2), 0);
+    GraveRows ten = Due.withGraves(10);
+    ten.cut(8, 9, true);
+    due.is("20 ten, the ninth place", Due.checkRow(ten, 0, 1, 2, 3, 4, 5, 6, 7, 8, 9), -9);
+    due.is("20 ten, right", Due.checkRow(ten, 0, 1, 2, 3, 4, 5, 6, 7, 9, 8), 0);
   }
 
   private static void checkCost() {

@@ -290,11 +290,10 @@ final class PlainRows {
     waiting = new ArrayList<>();
     int n = graves.size();
     if (n == 0) return no(Due.NONE);
-    List<Integer> places = row.subList(0, Math.min(n, row.size()));
     for (int i = 0; i < n; i++) {
-      if (i >= row.size() || outGrave(row.get(i)) || places.indexOf(row.get(i)) < i) return -1 - i;
-      for (int behind : places.subList(i + 1, places.size())) {
-        if (!outGrave(behind) && isLater(row.get(i), behind)) return -1 - i;
+      if (i >= row.size() || outGrave(row.get(i)) || row.indexOf(row.get(i)) < i) return -1 - i;
+      for (int g = 0; g < n; g++) {
+        if (isLater(row.get(i), g) && !row.subList(0, i).contains(g)) return -1 - i;
       }
     }
     return row.size() > n ? -12 : costIn(row, -1);
