@@ -21,6 +21,10 @@ final class Due {
     }
   }
 
+  void isTrue(String what, boolean holds) {
+    is(what, holds ? 1 : 0, 1);
+  }
+
   void end() {
     System.out.println(wrong + " of " + asked + " answers are not as due");
     if (wrong != 0 || asked == 0) {
