@@ -251,8 +251,8 @@ public final class OrdersEdgeTest {
   }
 
   private static void numbersAreGoneAfterCheck() {
-    int[][] rows = {{0, 1, 2}, {}, {0, 1}, {7}, {0, 0, 1}, {0, 1, 2, 0}};
-    int[] want = {0, -1, -3, -1, -2, -12};
+    int[][] rows = {{0, 1, 2}, {}, {0, 1}, {7}, {0, 0, 1}, {0, 1, 2, 0}, {0, 1, 2, 99}, {0, 1, 2, -1}};
+    int[] want = {0, -1, -3, -1, -2, -12, -12, -12};
     for (int i = 0; i < rows.length; i++) {
       GraveRows x = States.graves(3);
       due.is("20 row " + i, Due.checkRow(x, rows[i]), want[i]);
