@@ -16,6 +16,7 @@ public final class OrdersTest {
     stretches();
     border();
     freshAfterEachChange();
+    freshAfterAllChange();
     due.end();
   }
 
@@ -195,6 +196,10 @@ public final class OrdersTest {
     due.is("20 it has another one", Due.checkRow(x, 0, 1, 2, 3), 2);
     due.is("20 holes of a third good", Due.checkRow(x, 1, 0, 2, 3), 1);
     due.is("20 behind the last one is no hole", Due.checkRow(x, 0, 3, 1, 2), 0);
+    GraveRows y = Due.withGoods(0b01, 0, 0b01, 0b10, 0, 0b10, 0);
+    due.is("20 the last one is not at the last place", Due.checkRow(y, 0, 1, 2, 3, 4, 5, 6), 2);
+    due.is("20 the first one is not at the first place", Due.checkRow(y, 6, 0, 1, 2, 3, 4, 5), 2);
+    due.is("20 goods over one another", Due.checkRow(y, 0, 3, 1, 2, 4, 5, 6), 5);
     GraveRows ten = Due.withGraves(10);
     ten.goods(0, 4095);
     ten.goods(9, 4095);
@@ -315,5 +320,64 @@ public final class OrdersTest {
     kinds.cut(1, 0, true);
     kinds.cut(2, 1, true);
     due.is("15 a robbed one in its place", kinds.order(), 0);
+  }
+
+  /** Nothing of what an order hangs on is left as it was, at any grave. */
+  private static void freshAfterAllChange() {
+    GraveRows goods = Due.withGoods(1, 1);
+    due.is("23 goods go on", goods.stretches(2), 1);
+    goods.goods(0, 2);
+    goods.goods(1, 4);
+    due.is("23 all goods are others", goods.stretches(2), 0);
+    due.is("18 all goods are others", goods.good(2, false), 1);
+    robbedGoodsChange();
+    GraveRows cuts = Due.withGraves(2);
+    cuts.cut(0, 1, true);
+    due.is("16 the one is cut", cuts.at(0), 1);
+    cuts.cut(0, 1, false);
+    cuts.cut(1, 0, true);
+    due.is("16 the other one is", cuts.at(0), 0);
+    GraveRows kinds = threeOfKind(0);
+    kinds.keep();
+    for (int kind : new int[] {1, 2, 3}) {
+      due.is("15 three graves", kinds.order(), 1);
+      refill(kinds, kind);
+      due.is("15 three of kind " + kind, kinds.order(), kind == 2 ? 1 : 0);
+      kinds.back();
+    }
+    due.is("17 three graves again", kinds.holes(0), 1);
+  }
+
+  /** No good can be a hole at these, whatever they have, so that nothing but their goods tells a change. */
+  private static void robbedGoodsChange() {
+    GraveRows x = new GraveRows();
+    x.grave(1, 0, 0);
+    x.grave(3, 0, 0);
+    int[][] goods = {{0, 0}, {3, 3}, {4, 8}, {5, 5}, {0, 0}, {6, 2}, {2, 2}};
+    for (int[] pair : goods) {
+      x.goods(0, pair[0]);
+      x.goods(1, pair[1]);
+      due.is("23 robbed ones, goods " + pair[0] + " " + pair[1], x.stretches(2), Integer.bitCount(pair[0] & pair[1]));
+    }
+  }
+
+  private static GraveRows threeOfKind(int kind) {
+    GraveRows x = Due.withGraves(3);
+    refill(x, kind);
+    return x;
+  }
+
+  /** In place of three graves three others in a row by cuts, the one between without the good of the two others. */
+  private static void refill(GraveRows x, int kind) {
+    for (int g = 0; g < 3; g++) {
+      x.fill();
+    }
+    for (int g = 0; g < 3; g++) {
+      x.grave(kind, 0, 0);
+    }
+    x.goods(0, 1);
+    x.goods(2, 1);
+    x.cut(1, 0, true);
+    x.cut(2, 1, true);
   }
 }

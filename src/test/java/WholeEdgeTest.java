@@ -7,6 +7,7 @@ public final class WholeEdgeTest {
     keepOfNothing();
     keepInPlaceOfWhatWas();
     keepOfAll();
+    keepOfEachGrave();
     keepNotOfSheets();
     keepNotOfFindings();
     backNone();
@@ -76,6 +77,40 @@ public final class WholeEdgeTest {
     due.is("38 twelve numbers wait", x.told(3), 12);
     due.is("38 full of them", x.tell(0), Due.FULL);
     due.is("38 which numbers", x.check(), -12);
+  }
+
+  /** Others that are made in place of those that are kept leave nothing behind. */
+  private static void keepOfEachGrave() {
+    GraveRows x = new GraveRows();
+    for (int g = 0; g < 10; g++) {
+      x.grave(g % 2, g, g + 20);
+      x.goods(g, 3 << g & 4095);
+      x.span(g, g - 50, g + 50);
+      x.mark(g, g % 6, true);
+    }
+    x.keep();
+    for (int g = 0; g < 10; g++) {
+      x.fill();
+    }
+    for (int g = 0; g < 10; g++) {
+      x.grave(3, 99 - g, 0);
+      x.goods(g, 2730);
+      x.span(g, 1000, 2000);
+      for (int other = 0; other < g; other++) {
+        x.cut(g, other, true);
+      }
+      x.mark(g, (g + 1) % 6, false);
+    }
+    x.back();
+    for (int g = 0; g < 10; g++) {
+      int[] want = {g % 2, g, g + 20, 3 << g & 4095, g - 50, g + 50, 0, 0};
+      for (int what = 0; what < 8; what++) {
+        due.is("38 grave " + g + " what " + what, x.of(g, what), want[what]);
+      }
+      due.is("38 grave " + g + " share of a man", x.share(g, true), 10);
+      due.is("38 grave " + g + " mark that was told", x.mark(g, g % 6, true), 0);
+      due.is("38 grave " + g + " mark that was not", x.mark(g, (g + 1) % 6, true), 1);
+    }
   }
 
   private static void keepNotOfSheets() {
